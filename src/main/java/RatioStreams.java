@@ -514,8 +514,8 @@ public final class RatioStreams {
     }
 
     private static long greatestCommonDivisor(long x, long y) {
-        long big = Math.abs(x);
-        long small = Math.abs(y);
+        long big = x < 0 ? -x : x;
+        long small = y < 0 ? -y : y;
         // Numbers up to GREATEST need less than 80 rounds.
         for (int i = 0; i < 100 && small != 0; i++) {
             long rest = big % small;
@@ -967,7 +967,9 @@ public final class RatioStreams {
             int first = steps * STEP_WIDTH;
             rolled[first] = step;
             rolled[first + 1] = part;
-            System.arraycopy(now, 0, rolled, first + 2, 8);
+            for (int i = 0; i < 8; i++) {
+                rolled[first + 2 + i] = now[i];
+            }
             steps++;
         }
 
