@@ -18,7 +18,7 @@ public final class RatioStreams {
 
     private static final int RATIO = 0, ROOT = 1, RULE = 2, MADE = 3;
     private static final int ADD = 0, TAKE_AWAY = 1, TIMES = 2, OVER = 3, TURN = 4;
-    private static final int NEAREST = 0, NOT_ABOVE = 1, NOT_BELOW = 2;
+    private static final int NEAREST = 0, NOT_BELOW = 2;
     private static final int TAKEN_STEP = 0, OUT_STEP = 2, GIVEN_STEP = 4;
 
     /** Eight numbers a .. h for each act, in the order of ADD .. TURN. */

@@ -40,6 +40,26 @@ public final class ModelTest {
             long[] a = arguments(call);
             long due = ofModel(call, a);
             check.due("run " + seed + ", call " + i + ", " + CALLS[call] + Arrays.toString(a), ofBench(call, a), due);
+            if (i % 16 == 15) {
+                wholeRoll("run " + seed + ", behind call " + i);
+            }
+        }
+        everyPart("run " + seed);
+    }
+
+    private void wholeRoll(String where) {
+        for (int i = 0; i <= model.roll(-1, 0); i++) {
+            for (int what = 0; what < 10; what++) {
+                check.due(where + ", roll(" + i + ", " + what + ")", bench.roll(i, what), model.roll(i, what));
+            }
+        }
+    }
+
+    private void everyPart(String where) {
+        for (int s = 0; s < 40; s++) {
+            for (int k = 0; k <= 60; k++) {
+                check.due(where + ", part(" + s + ", " + k + ")", bench.part(s, k), model.part(s, k));
+            }
         }
     }
 

@@ -262,6 +262,11 @@ public final class StreamsTest {
         check.dueExact(b, 14, 1, 1, 2, 10000);
         b.ratio(11, 1);
         check.due("d far", b.act(3, 12, 15), Check.ISFAR);
+        b.root(1, 1, 2, 137);
+        b.ratio(73, 1);
+        check.due("d is 10001", b.act(3, 16, 17), Check.ISFAR);
+        b.drop(17);
+        b.drop(16);
         check.due("turn of a large root", b.turn(10), Check.ISFAR);
         b.root(0, 1, 10, 1);
         check.due("b b n at its most", b.act(2, 16, 8), 17);
@@ -376,6 +381,10 @@ public final class StreamsTest {
         check.due("10^15 - 10^15 below, all not far", b.mix(6, 4), Check.STATE);
         factors(b, 0, 0, 0, 1, 2, 0, -2, 0);
         check.due("0 below, but far on the way", b.mix(6, 4), Check.ISFAR);
+        b.ratio(0, 1);
+        factors(b, 2, 0, 0, 1, 0, 0, 0, 1);
+        check.due("far ahead of a factor 0", b.mix(4, 7), Check.ISFAR);
+        check.due("not far with the 0 first", b.mix(7, 4), 8);
         check.due("kind", b.told(3, 0), 0);
         check.due("roll stays empty", b.roll(Check.NONE, 0), 0);
     }
@@ -427,6 +436,17 @@ public final class StreamsTest {
         check.due("x is OUT once", outs, 1);
         check.due("y OUT likewise", b.mix(1, 0), 3);
         check.dueParts(b, 3, 3, 1, 10, 1, 1, 1, 10);
+        outs = 0;
+        for (int i = 0; i < b.roll(Check.NONE, 0); i++) {
+            check.due("x is never OUT", b.roll(i, 0) == 2 ? 1 : 0, 0);
+            if (b.roll(i, 0) == 3) {
+                outs++;
+                for (int what : new int[] {1, 2, 4, 6, 8}) {
+                    check.due("the PART, a, c, e, g of y OUT", b.roll(i, what), 0);
+                }
+            }
+        }
+        check.due("y is OUT once", outs, 1);
     }
 
     private static void drop() {

@@ -18,8 +18,10 @@ public final class ToldTest {
         bestRefused();
         figureOfRatio();
         figureOfOthers();
+        figureByItsSpan();
         figureRefused();
         roll();
+        noPartFromZeroBelow();
         rollStays();
         count();
         check.end();
@@ -105,7 +107,7 @@ public final class ToldTest {
         dueRound(b, 1, 1, 4);
         b.root(0, -1, 2, 1);
         dueRound(b, 2, 3, 1);
-        // The root of 991 comes round behind 60 PARTS; that is not looked at.
+        // The root of 991 comes round in 60 from PART 1 on: TAIL 61 is not looked at.
         b.root(0, 1, 991, 1);
         dueRound(b, 3, Check.ISOPEN, Check.ISOPEN);
         // The root of 94 comes round in 16: 9 1 2 3 1 1 5 1 8 1 5 1 1 3 2 1 18.
@@ -115,11 +117,14 @@ public final class ToldTest {
         dueRound(b, 5, 1, 16);
         b.root(9, 1, 94, 1);
         dueRound(b, 6, 0, 16);
+        // TAIL 60 is TAIL 2, and is looked at.
+        b.root(0, 1, 13, 19);
+        dueRound(b, 7, 2, 58);
         b.ratio(1, 3);
-        check.due("another KIND", b.round(7, 0), Check.STATE);
-        check.due("what", b.round(7, 2), Check.OUTSIDE);
+        check.due("another KIND", b.round(8, 0), Check.STATE);
+        check.due("what", b.round(8, 2), Check.OUTSIDE);
         check.due("what", b.round(0, -1), Check.OUTSIDE);
-        check.due("no such stream", b.round(8, 2), Check.UNKNOWN);
+        check.due("no such stream", b.round(9, 2), Check.UNKNOWN);
     }
 
     private static void sign() {
@@ -381,6 +386,41 @@ public final class ToldTest {
         check.due("no PART, no SPAN", b.figure(5, 10, 0), Check.ISOPEN);
     }
 
+    private static void figureByItsSpan() {
+        RatioStreams b = new RatioStreams();
+        b.root(0, 1, 2, 1);
+        b.factor(3, 5);
+        b.factor(7, 3);
+        b.mix(0, 0);
+        // 1 1 2: strictly between 5 / 3 and 7 / 4, which begin 1.2 and 1.3 to the base 4.
+        check.due("the upper end is no part of it", b.figure(1, 4, 1), 2);
+        check.due("the lower one is not, either", b.figure(1, 3, 1), 2);
+        check.due("5 / 3 is 1.2 to the base 3, 7 / 4 1.20..", b.figure(1, 3, 2), 0);
+        b.factor(3, 43);
+        b.factor(7, 30);
+        b.mix(0, 0);
+        // 1 2 3 4: strictly between 53 / 37 and 43 / 30, which is 1.(13) to the base 30.
+        check.due("the upper end is no part of it", b.figure(2, 30, 1), 12);
+        b.row(1000000, 0);
+        b.row(1000000, 0);
+        b.row(9, 0);
+        b.rule(0);
+        // t 3 is 9000001000009, but with t 2 it is above 10^13.
+        check.due("told by PART 2", b.figure(3, 10, 24), 0);
+        check.due("PART 3 would tell it", b.figure(3, 10, 25), Check.ISOPEN);
+        check.due("told by PART 2", b.figure(3, 36, 14), 22);
+        check.due("PART 3 would tell it", b.figure(3, 36, 15), Check.ISOPEN);
+        b.row(1, 0);
+        b.rule(0);
+        b.ratio(-10000000000000L, 1);
+        b.act(0, 4, 5);
+        check.due("10^13 in size will do", b.figure(6, 10, 0), -10000000000000L);
+        b.ratio(-10000000000001L, 1);
+        b.act(0, 4, 7);
+        check.due("part 0", b.part(8, 0), -10000000000001L);
+        check.due("more will not", b.figure(8, 10, 0), Check.ISOPEN);
+    }
+
     private static void figureRefused() {
         RatioStreams b = bench();
         check.due("no such stream", b.figure(5, 1, 41), Check.UNKNOWN);
@@ -443,6 +483,22 @@ public final class ToldTest {
         }
         check.due("TAKINGS", takings, b.told(2, 3));
         check.due("GIVINGS", givings, b.told(2, 1));
+    }
+
+    private static void noPartFromZeroBelow() {
+        RatioStreams b = new RatioStreams();
+        b.root(0, 1, 2, 1);
+        b.root(0, 1, 3, 1);
+        int[] eight = {0, 0, 0, 1, 0, -2, -2, 8};
+        for (int i = 0; i < 8; i++) {
+            b.factor(i, eight[i]);
+        }
+        b.mix(0, 1);
+        // 1 by 8 - 2 x - 2 y: behind 1 and 1 the CORNERS are 1 / 0, 1 / 2, 1 / 2, 1 / 4.
+        dueStep(b, 1, 1, 1, 1, 0, 0, 0, 4, -2, -2, 0);
+        check.due("one of them has 0 below, so it is TAKEN", b.roll(2, 0), 0);
+        check.due("part", b.part(2, 0), 0);
+        check.due("part", b.part(2, 1), 1);
     }
 
     private static void rollStays() {
