@@ -791,6 +791,10 @@ public final class RatioStreams {
             taken = 0;
             out = false;
         }
+
+        private boolean hasEnded() {
+            return stream != null && stream.ends && taken >= stream.known;
+        }
     }
 
     /** Makes the PARTS of f(x, y), and keeps THE ROLL of its latest work. */
@@ -911,13 +915,14 @@ public final class RatioStreams {
         }
 
         private boolean takeFrom(Source source) {
-            if (source.stream == null || source.out) {
+            if (source.stream == null || source.out || source.taken >= source.stream.known) {
                 return false;
             }
-            if (source.taken < source.stream.known) {
-                return takePart(source, source.stream.partAt(source.taken));
+            if (!takePart(source, source.stream.partAt(source.taken))) {
+                return false;
             }
-            return source.stream.ends && takeEnd(source);
+            // Nothing is GIVEN, no CORNER is looked at and the other side has no turn between a last PART and OUT.
+            return !source.hasEnded() || takeEnd(source);
         }
 
         private boolean takePart(Source source, long part) {

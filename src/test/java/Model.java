@@ -386,6 +386,16 @@ final class Model {
             if (made.known() == 60) {
                 return false;
             }
+            if (!outX && x.ends && fromX == x.known()) {
+                keep(new BigInteger[] {ZERO, ZERO, v[0], v[1], ZERO, ZERO, v[4], v[5]}, 2, ZERO);
+                outX = true;
+                return true;
+            }
+            if (!outY && y.ends && fromY == y.known()) {
+                keep(new BigInteger[] {ZERO, v[0], ZERO, v[2], ZERO, v[4], ZERO, v[6]}, 3, ZERO);
+                outY = true;
+                return true;
+            }
             BigInteger q = fromX > 0 && fromY > 0 ? whatCanBeGiven() : null;
             if (q != null) {
                 BigInteger[] w = v.clone();
@@ -412,12 +422,7 @@ final class Model {
                 fromX++;
                 return true;
             }
-            if (!x.ends) {
-                return false;
-            }
-            keep(new BigInteger[] {ZERO, ZERO, v[0], v[1], ZERO, ZERO, v[4], v[5]}, 2, ZERO);
-            outX = true;
-            return true;
+            return false;
         }
 
         private boolean takeY() {
@@ -429,12 +434,7 @@ final class Model {
                 fromY++;
                 return true;
             }
-            if (!y.ends) {
-                return false;
-            }
-            keep(new BigInteger[] {ZERO, v[0], ZERO, v[2], ZERO, v[4], ZERO, v[6]}, 3, ZERO);
-            outY = true;
-            return true;
+            return false;
         }
 
         private void keep(BigInteger[] w, int step, BigInteger part) {

@@ -21,6 +21,10 @@ public final class ToldTest {
         figureByItsSpan();
         figureRefused();
         roll();
+        outAheadOfGiving();
+        outOfOnePart();
+        outAndFar();
+        outBehindEveryLastPart();
         noPartFromZeroBelow();
         rollStays();
         count();
@@ -461,9 +465,10 @@ public final class ToldTest {
         dueStep(b, 1, 1, 4, 5, 1, 1, 0, 2, 0, 0, 0);
         // The CORNERS 7 / 2, 6 / 2, 6 / 2 (and 5 / 2) by lower numbers 2: 2 and 3.
         dueStep(b, 2, 0, 2, 11, 2, 5, 1, 4, 0, 2, 0);
-        dueStep(b, 3, 1, 2, 24, 11, 11, 5, 8, 4, 4, 2);
-        // 51 / 18, 35 / 12, 35 / 12, 24 / 8: not yet, 24 / 8 is 3.
-        dueStep(b, 4, 2, 0, 0, 0, 24, 11, 0, 0, 8, 4);
+        // That was the last PART of x: it is OUT at once.
+        dueStep(b, 3, 2, 0, 0, 0, 11, 2, 0, 0, 4, 0);
+        // 13 / 4 and 11 / 4.
+        dueStep(b, 4, 1, 2, 0, 0, 24, 11, 0, 0, 8, 4);
         // 35 / 12 and 24 / 8.
         dueStep(b, 5, 1, 2, 0, 0, 59, 24, 0, 0, 20, 8);
         // 83 / 28 and 59 / 20.
@@ -499,6 +504,103 @@ public final class ToldTest {
         check.due("one of them has 0 below, so it is TAKEN", b.roll(2, 0), 0);
         check.due("part", b.part(2, 0), 0);
         check.due("part", b.part(2, 1), 1);
+    }
+
+    private static RatioStreams benchOf(long u, long v, int p0, int next, int... eight) {
+        RatioStreams b = new RatioStreams();
+        b.ratio(u, v);
+        b.row(next, 0);
+        b.rule(p0);
+        for (int i = 0; i < eight.length; i++) {
+            b.factor(i, eight[i]);
+        }
+        return b;
+    }
+
+    private static void outAheadOfGiving() {
+        // f is x alone, 1 / 3: with 0 and 3 TAKEN it lies within 1 / 4 .. 1 / 3, but OUT comes ahead of the GIVING.
+        RatioStreams b = benchOf(1, 3, 1000, 1000, 0, 1, 0, 0, 0, 0, 0, 1);
+        b.mix(0, 1);
+        dueStep(b, 1, 1, 1000, 0, 0, 1, 0, 1, 0, 0, 0);
+        dueStep(b, 2, 0, 3, 1, 0, 0, 0, 3, 0, 1, 0);
+        dueStep(b, 3, 2, 0, 0, 0, 1, 0, 0, 0, 3, 0);
+        dueStep(b, 4, 4, 0, 0, 0, 3, 0, 0, 0, 1, 0);
+        dueStep(b, 5, 4, 3, 0, 0, 1, 0, 0, 0, 0, 0);
+        check.due("then y till c, 1000 times as great each time, would be FAR", b.told(2, 3), 7);
+        // The same with y.
+        b = benchOf(1, 3, 1000, 1000, 0, 0, 1, 0, 0, 0, 0, 1);
+        b.mix(1, 0);
+        dueStep(b, 2, 0, 1000, 0, 1000, 0, 1, 1000, 0, 1, 0);
+        dueStep(b, 3, 1, 3, 1000, 0, 1, 0, 3000, 1000, 3, 1);
+        dueStep(b, 4, 3, 0, 0, 1000, 0, 1, 0, 3000, 0, 3);
+        dueStep(b, 5, 4, 0, 0, 3000, 0, 3, 0, 1000, 0, 1);
+        dueStep(b, 6, 4, 3, 0, 1000, 0, 1, 0, 0, 0, 0);
+    }
+
+    private static void outOfOnePart() {
+        RatioStreams b = benchOf(7, 1, 4, 2);
+        b.act(0, 0, 1);
+        dueStep(b, 0, 0, 7, 1, 7, 0, 1, 0, 1, 0, 0);
+        dueStep(b, 1, 2, 0, 0, 0, 1, 7, 0, 0, 0, 1);
+        dueStep(b, 2, 1, 4, 0, 0, 11, 1, 0, 0, 1, 0);
+        dueStep(b, 3, 1, 2, 0, 0, 23, 11, 0, 0, 2, 1);
+        dueStep(b, 4, 4, 11, 0, 0, 2, 1, 0, 0, 1, 0);
+        b.act(0, 1, 0);
+        dueStep(b, 0, 0, 4, 1, 4, 0, 1, 0, 1, 0, 0);
+        dueStep(b, 1, 1, 7, 11, 1, 1, 0, 1, 0, 0, 0);
+        dueStep(b, 2, 3, 0, 0, 11, 0, 1, 0, 1, 0, 0);
+        dueStep(b, 3, 0, 2, 0, 23, 0, 11, 0, 2, 0, 1);
+        dueStep(b, 4, 4, 11, 0, 2, 0, 1, 0, 1, 0, 0);
+    }
+
+    private static void outAndFar() {
+        RatioStreams b = benchOf(1, GREATEST, 2, 2);
+        b.act(0, 0, 1);
+        check.due("a last PART that is FAR to TAKE: no OUT", b.roll(Check.NONE, 0), 2);
+        check.due("TAKEN", b.told(2, 3), 2);
+        // With the last PART TAKEN e + f + g + h is 10^15 and 1, without it 10^15.
+        b = benchOf(1, GREATEST, 1, 2);
+        b.act(2, 0, 1);
+        dueStep(b, 2, 0, GREATEST, 1, 1, 0, 0, GREATEST, 0, 1, 0);
+        dueStep(b, 3, 2, 0, 0, 0, 1, 1, 0, 0, GREATEST, 0);
+        dueStep(b, 4, 4, 0, 0, 0, GREATEST, 0, 0, 0, 1, 1);
+        check.due("steps", b.roll(Check.NONE, 0), 5);
+        check.due("TAKEN", b.told(2, 3), 3);
+        // The same with y: 3 q is not FAR, 3 q and 3 is.
+        long q = 333333333333333L;
+        b = benchOf(1, q, 1, 2);
+        b.act(2, 1, 0);
+        dueStep(b, 3, 1, q, 3, 0, 1, 0, 2 * q, 2, q, 1);
+        dueStep(b, 4, 3, 0, 0, 3, 0, 1, 0, 2 * q, 0, q);
+        dueStep(b, 5, 4, 0, 0, 2 * q, 0, q, 0, 3, 0, 1);
+        check.due("steps", b.roll(Check.NONE, 0), 6);
+        check.due("TAKEN", b.told(2, 3), 4);
+    }
+
+    private static void outBehindEveryLastPart() {
+        for (int u = -20; u <= 20; u++) {
+            for (int how = 0; how < 4; how++) {
+                RatioStreams b = benchOf(u, 13, u + 3, 5);
+                b.act(how, 0, 1);
+                outIsBehindLast(b, 0);
+                if (how < 3 || u != 0) {
+                    b.act(how, 1, 0);
+                    outIsBehindLast(b, 1);
+                }
+            }
+        }
+    }
+
+    private static void outIsBehindLast(RatioStreams b, int side) {
+        long left = b.told(0, 1);
+        for (int i = 0; i < b.roll(Check.NONE, 0); i++) {
+            boolean isBehind = left == 0;
+            check.due("whether step " + i + " is OUT", b.roll(i, 0) == 2 + side ? 1 : 0, isBehind ? 1 : 0);
+            if (isBehind || b.roll(i, 0) == side) {
+                left--;
+            }
+        }
+        check.due("the last PART was TAKEN, OUT was told", left, -1);
     }
 
     private static void rollStays() {
