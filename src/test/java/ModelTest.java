@@ -12,6 +12,10 @@ public final class ModelTest {
         0, 1, -1, 2, 9, 10, 36, 37, 40, 41, 59, 60, 61, 1000, 1001, 10000, 10001, 1000000, -1000000, 1000001,
         -1000001, Integer.MAX_VALUE, Integer.MIN_VALUE};
     private static final long GREATEST = 1000000000000000L;
+    private static final long[] LARGE = {
+        GREATEST, GREATEST - 1, GREATEST + 1, GREATEST / 2, GREATEST / 2 + 1, GREATEST / 4, GREATEST / 36,
+        GREATEST / 36 + 1, 1L << 32, 1L << 45, 10000000000000L, 10000000000001L, 9999999999999L, 1000000000,
+        1000000001, 999999999, 31622776, 31622777, 10000000, 3162, 3163, Long.MAX_VALUE, Long.MIN_VALUE};
 
     private final Random random;
     private final RatioStreams bench = new RatioStreams();
@@ -96,10 +100,24 @@ public final class ModelTest {
         return any(-Math.min(bound, most), Math.min(bound, most));
     }
 
+    private long large() {
+        long value = LARGE[random.nextInt(LARGE.length)];
+        return random.nextInt(3) == 0 ? -value : value;
+    }
+
+    private long upper() {
+        return random.nextInt(4) == 0 ? large() : sized(GREATEST);
+    }
+
+    private long lower() {
+        int way = random.nextInt(6);
+        return way == 0 ? large() : way < 3 ? 1 : sized(GREATEST);
+    }
+
     private long[] arguments(int call) {
         switch (CALLS[call]) {
             case "ratio":
-                return random.nextInt(40) == 0 ? fibonacci() : new long[] {sized(GREATEST), sized(GREATEST)};
+                return random.nextInt(40) == 0 ? fibonacci() : new long[] {upper(), lower()};
             case "root":
                 return new long[] {sized(10000), sized(100), any(0, 1000) % (random.nextBoolean() ? 8 : 1001),
                     random.nextInt(3) == 0 ? 1 : sized(1000)};

@@ -35,6 +35,7 @@ public final class RefusalsTest {
         roll();
         count();
         emptyBench();
+        tellingChangesNothing();
         check.end();
     }
 
@@ -363,6 +364,21 @@ public final class RefusalsTest {
     private static void count() {
         some("what", b -> b.count(-1), Check.OUTSIDE);
         some("what", b -> b.count(3), Check.OUTSIDE);
+    }
+
+    /** What is told is no change, either. */
+    private static void tellingChangesNothing() {
+        some("told", b -> b.told(MADE, 0), 3);
+        some("part", b -> b.part(RATIO, 3), 4);
+        some("exact", b -> b.exact(ROOT, 2), 2);
+        some("round", b -> b.round(FAR_TO_TURN, 1), 2);
+        some("sign", b -> b.sign(NEARS_FAR), -1);
+        some("compare", b -> b.compare(RATIO, ROOT), 1);
+        some("near", b -> b.near(RATIO, 3, 0), 43);
+        some("best", b -> b.best(ROOT, 100, 0, 0), 140);
+        some("figure", b -> b.figure(ROOT, 10, 1), 4);
+        some("roll", b -> b.roll(0, 0), 0);
+        some("count", b -> b.count(1), 2);
     }
 
     /** A new bench, and one whose last STREAM was dropped, know no STREAM at all. */

@@ -12,6 +12,7 @@ public final class TermsTest {
         sixtyPartsOfRootAndRule();
         sixtyPartsOfMade();
         lastPartAboveOne();
+        partsBehindTheFirstAboveZero();
         greatestWholeNumberNotAbove();
         rootIsFarByD();
         rootIsFarByA();
@@ -229,6 +230,24 @@ public final class TermsTest {
         RatioStreams b = new RatioStreams();
         b.ratio(1, 1);
         check.dueParts(b, 0, 1, Check.OUTSIDE);
+    }
+
+    /** "p0 any number, the others above 0": of each KIND. */
+    private static void partsBehindTheFirstAboveZero() {
+        RatioStreams b = new RatioStreams();
+        b.ratio(-GREATEST, 4052739537881L);
+        b.root(-7, -3, 19, 5);
+        rule(b, -1000000, 1);
+        for (int how = 0; how < 4; how++) {
+            b.act(how, 1, 2);
+            b.act(how, 2, 0);
+        }
+        for (int s = 0; s < b.count(0); s++) {
+            check.due("p0 of " + s, b.part(s, 0) < 0 ? -1 : 1, b.sign(s));
+            for (int k = 1; k < 20 && k < b.told(s, 1); k++) {
+                check.due("PART " + k + " of " + s, b.part(s, k) > 0 ? 1 : 0, 1);
+            }
+        }
     }
 
     /** "again and again the greatest whole number not above it": below 0, too. */
