@@ -25,6 +25,7 @@ public final class TermsTest {
         farTimes();
         farOver();
         farOverRoot();
+        farProductOfRootsAlone();
         farTurn();
         farMix();
         farPastTheLong();
@@ -456,6 +457,27 @@ public final class TermsTest {
         check.due(name, over < 0 ? Check.ISFAR : 1, due ? 1 : Check.ISFAR);
         if (due) {
             check.dueExact(b, (int) over, 1, 1);
+        }
+    }
+
+    /** 2079 2109 k k is FAR with k 15102, but less 2 2079 2109 it is not, and no root is left. */
+    private static void farProductOfRootsAlone() {
+        for (int k = 15101; k <= 15102; k++) {
+            RatioStreams b = new RatioStreams();
+            int x = wide(b, 2109L * k, 2109, 2, 1);
+            int y = wide(b, 2079L * k, 2079, 2, 1);
+            int z = wide(b, 2079L * k, -2079, 2, 1);
+            int times = (int) b.act(2, x, z);
+            int over = (int) b.act(3, x, y);
+            check.due("a a' alone is FAR, times", times < 0 ? 1 : 0, k == 15102 ? 1 : 0);
+            check.due("a a' alone is FAR, over", over < 0 ? 1 : 0, k == 15102 ? 1 : 0);
+            if (k == 15101) {
+                check.dueExact(b, times, 2109L * 2079 * (15101L * 15101 - 2), 1);
+                check.dueExact(b, over, 703, 693);
+            } else {
+                check.due("times", b.act(2, x, z), Check.ISFAR);
+                check.due("over", b.act(3, x, y), Check.ISFAR);
+            }
         }
     }
 
