@@ -1,12 +1,17 @@
+import java.lang.reflect.Array;
 import java.lang.reflect.Executable;
 import java.lang.reflect.Field;
 import java.lang.reflect.Method;
 import java.lang.reflect.Modifier;
 import java.nio.file.Files;
 import java.nio.file.Path;
+import java.util.ArrayDeque;
 import java.util.ArrayList;
 import java.util.Arrays;
+import java.util.Collections;
+import java.util.IdentityHashMap;
 import java.util.List;
+import java.util.Set;
 import java.util.TreeSet;
 import java.util.regex.Matcher;
 import java.util.regex.Pattern;
@@ -29,6 +34,8 @@ public final class LanguageTest {
         }
         words(text);
         onlyTheConstructorMakesObjects(text);
+        shortMethods(text);
+        room();
         check.end();
     }
 
@@ -113,5 +120,69 @@ public final class LanguageTest {
             boolean early = line.matches("\\s*private final .* = new .*") || line.contains("streams[i] = new Stream();");
             check.dueText("a line that makes objects", makes && !early ? line : "", "");
         }
+    }
+
+    /** "Methods stay short (some sixty lines)" */
+    private static void shortMethods(String text) {
+        Matcher m = Pattern.compile("(?m)^( {4}| {8})((?:private|public)[^=;{]*\\)) \\{$(?s:(.*?))^\\1\\}$").matcher(text);
+        int found = 0;
+        while (m.find()) {
+            found++;
+            check.due("sixty lines at most: " + m.group(2), m.group(3).lines().count() <= 60 ? 1 : 0, 1);
+        }
+        check.due("methods are found", found > FACE.length ? 1 : 0, 1);
+    }
+
+    /** All that an object holds is there from the first, so that a run of calls takes no more room. */
+    private static void room() throws Exception {
+        RatioStreams bench = new RatioStreams();
+        long[] first = roomOf(bench);
+        check.due("objects and arrays", first[0] <= 200 ? 1 : 0, 1);
+        check.due("fields and elements", first[1] <= 10000 ? 1 : 0, 1);
+        for (int i = 0; i < 40; i++) {
+            bench.row(1 + i, i);
+            bench.root(i, 1, 2 + i, 1);
+            bench.rule(i);
+            bench.act(i % 4, i, i / 2);
+            bench.best(i, 1000, 0, 0);
+            bench.figure(i, 10, 20);
+        }
+        long[] then = roomOf(bench);
+        check.due("objects and arrays, then", then[0], first[0]);
+        check.due("fields and elements, then", then[1], first[1]);
+    }
+
+    private static long[] roomOf(Object start) throws Exception {
+        Set<Object> seen = Collections.newSetFromMap(new IdentityHashMap<>());
+        ArrayDeque<Object> ahead = new ArrayDeque<>();
+        ahead.add(start);
+        long elements = 0;
+        while (!ahead.isEmpty()) {
+            Object one = ahead.poll();
+            if (!seen.add(one)) {
+                continue;
+            }
+            List<Object> inside = new ArrayList<>();
+            if (one.getClass().isArray()) {
+                elements += Array.getLength(one);
+                for (int i = 0; i < Array.getLength(one) && one instanceof Object[]; i++) {
+                    inside.add(Array.get(one, i));
+                }
+            } else {
+                for (Field f : one.getClass().getDeclaredFields()) {
+                    if (!Modifier.isStatic(f.getModifiers())) {
+                        elements++;
+                        f.setAccessible(true);
+                        inside.add(f.getType().isPrimitive() ? null : f.get(one));
+                    }
+                }
+            }
+            for (Object next : inside) {
+                if (next != null) {
+                    ahead.add(next);
+                }
+            }
+        }
+        return new long[] {seen.size(), elements};
     }
 }
